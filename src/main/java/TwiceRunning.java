@@ -51,11 +51,11 @@ public final class TwiceRunning {
     private static final int STRANGE = 4;
 
     private final League league = new League();
-    /** What is asked with "if" happens here, so that the league itself needs no taking back. */
-    private final League trial = new League();
     private final League kept = new League();
     private boolean isKept = false;
-    private final Walk walk = new Walk(trial);
+    private final Walk walk = new Walk();
+    /** What is asked with "if" happens here, so that the league itself needs no taking back. */
+    private final League trial = walk.league;
     private final Tape tape = new Tape();
     private final Sheet[] sheets = new Sheet[SHEETS];
     private final int[] findings = new int[FINDINGS];
@@ -1038,7 +1038,7 @@ public final class TwiceRunning {
 
     /** Goes all ways of a league's games to come, and leaves the league as it was. */
     private static final class Walk {
-        private final League league;
+        final League league = new League();
         final long[] pointSums = new long[MOST_SIDES];
         final long[] firstSums = new long[MOST_SIDES];
         final long[] toFirst = new long[MOST_GAMES];
@@ -1051,10 +1051,6 @@ public final class TwiceRunning {
         private boolean alsoUnlikely = false;
         long goalSum = 0;
         int mostPoints = 0;
-
-        Walk(League league) {
-            this.league = league;
-        }
 
         /** The goal: that a side has so many points or more. */
         void over(int side, int points, boolean unlikelyOnes) {

@@ -186,6 +186,9 @@ public final class PromisesTest {
         due(STATE, x.swap(0, 0));
         due(BEYOND, x.swap(0, 3));
         due(BEYOND, x.swap(-1, 0));
+        due(1, x.swap(2, 1));
+        due(1, x.gameOf(1, 2));
+        due(1, x.swap(1, 2));
         due(1, x.swap(1, 2));
         due(1, x.gameOf(1, 2));
     }
@@ -276,6 +279,47 @@ public final class PromisesTest {
         }
         due(1, textOfNew("side 009tells000"));
         due(1, textOfNew("bar9"));
+        due(-1, textOfNew("zide 1"));
+        due(-1, textOfNew("lawz 1"));
+        due(-1 - 4, textOfNew("law zzz"));
+        due(-1 - 14, textOfNew("side 1;side 2;sid"));
+        due(3, textOfNew("side 1;side 2;game 1 0 worth 1"));
+        textsBehindOthers();
+        fullTapes();
+    }
+
+    /** What stood on the tape before is no part of a text that is fed later. */
+    private static void textsBehindOthers() {
+        String[] before = {"lawlaw", "law 11", "law 1 ;"};
+        String[] texts = {"law", "law 1", "law 1"};
+        int[] answers = {-1 - 3, 1, 1};
+        for (int i = 0; i < texts.length; i++) {
+            TwiceRunning x = new TwiceRunning();
+            feed(x, before[i]);
+            x.wipe();
+            due(answers[i], text(x, texts[i]));
+        }
+        TwiceRunning y = new TwiceRunning();
+        due(-1 - 6, text(y, "law 2 law"));
+        due(1, text(y, "law 2 "));
+        due(0, y.side(SIDE, 1));
+        due(1, text(y, "side 3 tells 4"));
+        due(3, y.sideOf(1, 1));
+        due(4, y.sideOf(1, 2));
+    }
+
+    /** Texts that end with the last byte that the tape can have. */
+    private static void fullTapes() {
+        String blanks = " ".repeat(120);
+        due(-1 - 120, textOfNew(blanks));
+        due(-1 - 117, textOfNew(blanks.substring(3) + "foo"));
+        due(-1 - 120, textOfNew(blanks.substring(3) + "law"));
+        due(1, textOfNew(blanks.substring(4) + "law3"));
+        due(1, textOfNew("law" + "0".repeat(116) + "3"));
+        due(1, textOfNew("law3" + blanks.substring(4)));
+        due(-1 - 120, textOfNew("law3" + blanks.substring(5) + ";"));
+        due(24, textOfNew("law1;".repeat(23) + "law2 "));
+        due(-1, textOfNew("a".repeat(120)));
     }
 
     private static void next() {
@@ -625,6 +669,18 @@ public final class PromisesTest {
         TwiceRunning y = pairOf(SIDE, 9, SIDE, 8, 1);
         due(5, y.next(2));
         due(0, y.wronged());
+        y.change(0, 1, 8);
+        y.change(1, 1, 9);
+        due(4, y.next(2));
+        due(0, y.wronged());
+        due(0, pairOf(SIDE, 1, TOLD, 1, 1).wronged());
+        due(0, pairOf(TOLD, 1, SIDE, 1, 1).wronged());
+        due(1, pairOf(SIDE, 1, TOLD, 9, 1).wronged());
+        due(1, pairOf(SIDE, 8, TOLD, 9, 1).wronged());
+        due(1, pairOf(TOLD, 9, SIDE, 8, 1).wronged());
+        due(0, pairOf(TOLD, 8, TOLD, 9, 1).wronged());
+        // All eight games, the last of which there is no game behind.
+        due(4, pairOf(SIDE, 9, TOLD, 1, 1, 1, 1, 1, 1, 1, 1, 1).wronged());
     }
 
     private static void tries() {
@@ -651,6 +707,8 @@ public final class PromisesTest {
         x.win(0);
         int z = x.count(5);
         due(7, x.tries(1, 7));
+        due(1, x.tries(1, 1));
+        due(0, x.tries(0, 40));
         due(z, x.count(5));
         begin(33);
         due(z, x.seed(-1000001));
