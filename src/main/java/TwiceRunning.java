@@ -1224,15 +1224,10 @@ public final class TwiceRunning {
                 return false;
             }
             int strength = tokenNumber;
-            int tells = 0;
             goOn();
-            if (isWord("tells")) {
-                goOn();
-                if (!isNumber(0, MOST_TELLS)) {
-                    return false;
-                }
-                tells = tokenNumber;
-                goOn();
+            int tells = readPerhaps("tells", 0, MOST_TELLS, 0);
+            if (tells < 0) {
+                return false;
             }
             league.addSide(kind, strength, tells);
             return true;
@@ -1252,15 +1247,10 @@ public final class TwiceRunning {
                 return false;
             }
             int other = tokenNumber;
-            int worth = 1;
             goOn();
-            if (isWord("worth")) {
-                goOn();
-                if (!isNumber(1, MOST_WORTH)) {
-                    return false;
-                }
-                worth = tokenNumber;
-                goOn();
+            int worth = readPerhaps("worth", 1, MOST_WORTH, 1);
+            if (worth < 0) {
+                return false;
             }
             league.addGame(first, other, worth);
             return true;
@@ -1274,6 +1264,20 @@ public final class TwiceRunning {
             league.law = tokenNumber;
             goOn();
             return true;
+        }
+
+        /** The number behind a word that may stand here, or what counts without the word; -1 with a fault. */
+        private int readPerhaps(String word, int least, int most, int without) {
+            if (!isWord(word)) {
+                return without;
+            }
+            goOn();
+            if (!isNumber(least, most)) {
+                return -1;
+            }
+            int told = tokenNumber;
+            goOn();
+            return told;
         }
 
         private boolean isNumber(int least, int most) {
