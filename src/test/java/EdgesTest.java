@@ -490,6 +490,17 @@ public final class EdgesTest {
             x.undo();
             due(1 - winner, x.win(1 - winner));
         }
+        says("Terms 1: GIVEN to the other one, if that isn't BARRED, whatever POINTS it has");
+        TwiceRunning more = sides(3);
+        more.game(1, 2, 9);
+        more.game(1, 2, 1);
+        more.game(0, 2, 1);
+        more.game(0, 1, 1);
+        more.win(1);
+        more.win(2);
+        more.win(0);
+        due(1, more.win(0));
+        due(10, more.sideOf(1, 3));
         says("Terms 1: if both are BARRED: GIVEN to the one with less POINTS, of like ones to the lesser number");
         int[][] worths = {{3, 4}, {4, 3}, {5, 5}};
         int[] due = {0, 1, 0};
@@ -837,6 +848,20 @@ public final class EdgesTest {
     }
 
     private static void textTokens() {
+        says("11: another WORD: one letter other, fewer or more");
+        for (String word : new String[] {"side", "try", "spare", "choose", "feed", "bar", "told", "law", "tells", "worth",
+                "game"}) {
+            String behind = word.equals("game") ? " 0 1" : " 1";
+            String ahead = word.equals("tells") ? "side 1 " : word.equals("worth") ? "game 0 1 " : "";
+            read(ahead + word + behind, 1);
+            for (int i = 0; i < word.length(); i++) {
+                fault(ahead + word.substring(0, i) + "z" + word.substring(i + 1) + behind, ahead.length());
+                fault(ahead + word.substring(0, i) + word.substring(i + 1) + behind, ahead.length());
+            }
+            fault(ahead + word + "s" + behind, ahead.length());
+            fault(ahead + word + word + behind, ahead.length());
+            fault(ahead + word.substring(0, 1).toUpperCase() + word.substring(1) + behind, ahead.length());
+        }
         says("11: NUMBERS are 999 at most: one above isn't as told");
         for (String number : new String[] {"999", "1000", "1001", "1003", "2147483648", "4294967297", "4294967299",
                 "18446744073709551617", "9".repeat(100)}) {
@@ -1052,6 +1077,18 @@ public final class EdgesTest {
         due(NONE, x.gameOf(0, 4));
         due(0, x.anew());
         due(4, x.sideOf(5, 2));
+        for (int winner = 0; winner <= 1; winner++) {
+            TwiceRunning y = pair(2, 3);
+            y.win(winner);
+            y.win(winner);
+            due(2, y.anew());
+            for (int g = 0; g <= 1; g++) {
+                dueTerms(1, 2, y.gets(g, 0, 0), y.gets(g, 0, 1));
+                dueTerms(g, g + 1, y.moved(g, 0), y.moved(g, 1));
+            }
+            dueTerms(5, 2, y.mean(0, 0), y.mean(0, 1));
+            due(4, y.ways());
+        }
     }
 
     private static void leadsAndPlace() {
@@ -1073,6 +1110,14 @@ public final class EdgesTest {
         for (int s = 0; s < 6; s++) {
             due(places[s], rich().place(s));
             due(1, sides(6).place(s));
+        }
+        TwiceRunning six = sides(6);
+        for (int s = 0; s < 5; s++) {
+            six.game(s, 5, 9 - s);
+            six.win(s);
+        }
+        for (int s = 0; s < 6; s++) {
+            due(s + 1, six.place(s));
         }
     }
 
@@ -1189,6 +1234,18 @@ public final class EdgesTest {
         dueTerms(27, 10, y.mean(4, 0), y.mean(4, 1));
         dueTerms(27, 1000, y.least(4, 9, 0), y.least(4, 9, 1));
         dueTerms(0, 1, y.least(4, 10, 0), y.least(4, 10, 1));
+        says("24: one who didn't win it, as often as the winner is BARRED and it is GIVEN otherwise");
+        for (int tenths = 0; tenths <= 10; tenths++) {
+            TwiceRunning two = chanceOf(tenths, 1, 1);
+            int same = tenths * tenths + (10 - tenths) * (10 - tenths);
+            due(same * two.moved(1, 1), 100 * two.moved(1, 0));
+            due(tenths * two.gets(1, 1, 1), 10 * two.gets(1, 1, 0));
+        }
+        TwiceRunning asked = pair(1, 1);
+        dueTerms(1, 2, asked.moved(1, 0), asked.moved(1, 1));
+        dueTerms(1, 2, pair(1).first(1, 0), pair(1).first(1, 1));
+        dueTerms(5, 2, pair(2, 3).mean(1, 0), pair(2, 3).mean(1, 1));
+        dueTerms(1, 2, pair(1).gets(0, 1, 0), pair(1).gets(0, 1, 1));
         says("21: POINTS of before count, n to 99");
         TwiceRunning z = pair(9, 9, 9, 9, 9, 9, 9, 9);
         for (int g = 0; g < 7; g++) {
@@ -1290,10 +1347,17 @@ public final class EdgesTest {
         due(0, ended().gains());
         due(0, pairOf(TOLD, 1, SIDE, 1, 5, 5).gains());
         due(1, pairOf(SIDE, 1, TOLD, 1, 5, 5).gains());
-        TwiceRunning third = pairOf(SIDE, 1, TOLD, 1, 5, 5);
-        third.law(2);
-        third.gains();
-        due(2, third.count(3));
+        says("30: by LAW 1 as against LAW 3, whatever LAW is, which stays");
+        for (int law = 1; law <= 3; law++) {
+            TwiceRunning two = pairOf(SIDE, 1, TOLD, 1, 5, 5);
+            two.law(law);
+            due(1, two.gains());
+            due(law, two.count(3));
+            // The sure loser 0 gets 1 and 5 by LAW 1, 1 by LAW 2, 5 by LAW 3.
+            TwiceRunning four = pairOf(TOLD, 1, SIDE, 1, 1, 1, 1, 5);
+            four.law(law);
+            due(0, four.gains());
+        }
     }
 
     private static void order() {
@@ -1328,6 +1392,19 @@ public final class EdgesTest {
         due(1, y.order(1));
         due(9, y.gameOf(0, 2));
         due(0, y.count(2));
+        says("28: orders of all of the GAMES, each of them once");
+        TwiceRunning once = sides(3);
+        once.law(3);
+        once.game(1, 2, 5);
+        once.game(0, 1, 5);
+        due(1, once.order(0));
+        due(1, once.order(1));
+        TwiceRunning turned = sides(3);
+        turned.law(3);
+        turned.game(0, 1, 5);
+        turned.game(1, 2, 5);
+        due(1, turned.order(0));
+        says("28: the last of all orders of 4");
         TwiceRunning z = chain();
         due(3210, z.order(1));
         z.swap(0, 3);
@@ -1388,7 +1465,8 @@ public final class EdgesTest {
         says("32: n seasons are drawn as by play(), and taken back; z goes on");
         for (int n : new int[] {1, 2, 39, 40}) {
             for (int played = 0; played <= 3; played++) {
-                TwiceRunning x = pairOf(TRY, 4, SPARE, 6, 3, 2, 5);
+                TwiceRunning x = pairOf(TRY, 4, TRY, 5, 4, 3, 3);
+                x.law(3);
                 for (int g = 0; g < played; g++) {
                     x.win(g % 2);
                 }
@@ -1521,6 +1599,9 @@ public final class EdgesTest {
             due(0, x.load(0));
             due(3, x.sheet(0, bits, 3));
             due(3, x.load(0));
+            for (int g = 0; g < 3; g++) {
+                due(0, x.gameOf(g, 3));
+            }
             x.anew();
         }
         says("36: bits 0: it is MISSING, whatever it was");
