@@ -1,5 +1,7 @@
 import java.util.ArrayList;
+import java.util.HashSet;
 import java.util.List;
+import java.util.Set;
 import java.util.function.Supplier;
 import java.util.function.ToLongFunction;
 
@@ -27,13 +29,13 @@ public final class EdgesTest {
     private static final int[] KINDS = {SIDE, TRY, SPARE, CHOOSE, FEED, BAR, TOLD};
 
     private static int wrong = 0;
-    private static int sentences = 0;
+    private static final Set<String> SENTENCES = new HashSet<>();
     private static int checks = 0;
     private static String sentence = "";
 
     private static void says(String words) {
         sentence = words;
-        sentences++;
+        SENTENCES.add(words);
         checks = 0;
     }
 
@@ -2046,7 +2048,7 @@ public final class EdgesTest {
         images();
         count();
         status();
-        System.out.println(sentences + " sentences on edges: " + (wrong == 0 ? "all hold" : wrong + " answers are not as due"));
+        System.out.println(SENTENCES.size() + " sentences on edges: " + (wrong == 0 ? "all hold" : wrong + " answers are not as due"));
         if (wrong != 0) {
             System.exit(1);
         }
