@@ -1065,7 +1065,7 @@ public final class TwiceRunning {
                 all *= TENTHS;
             }
             startSums();
-            follow(0, all);
+            follow(this, 0, all);
         }
 
         void keepPointSums() {
@@ -1093,9 +1093,10 @@ public final class TwiceRunning {
          * From here on, where the ways that go through here have this share of all together:
          * what a game gives can so be summed up at once for all ways behind it.
          */
-        private void follow(int depth, long share) {
+        private static void follow(Walk walk, int depth, long share) {
+            League league = walk.league;
             if (league.allPlayed()) {
-                arrive(share);
+                walk.arrive(share);
                 return;
             }
             if (depth >= MOST_GAMES) {
@@ -1109,14 +1110,14 @@ public final class TwiceRunning {
             for (int turn = 0; turn < 2; turn++) {
                 int winner = turn == 0 ? game.first : game.other;
                 long part = share / TENTHS * (turn == 0 ? chance : TENTHS - chance);
-                if (part == 0 && !alsoUnlikely) {
+                if (part == 0 && !walk.alsoUnlikely) {
                     continue;
                 }
                 int given = league.settle(winner, firstEffort, otherEffort);
-                pointSums[given] += part * game.worth;
-                toFirst[number] += given == game.first ? part : 0;
-                movedSums[number] += given != winner ? part : 0;
-                follow(depth + 1, part);
+                walk.pointSums[given] += part * game.worth;
+                walk.toFirst[number] += given == game.first ? part : 0;
+                walk.movedSums[number] += given != winner ? part : 0;
+                follow(walk, depth + 1, part);
                 league.takeBack();
             }
         }

@@ -9,6 +9,9 @@ import java.nio.file.Path;
 import java.util.ArrayList;
 import java.util.Arrays;
 import java.util.List;
+import java.util.Map;
+import java.util.Set;
+import java.util.TreeMap;
 import java.util.TreeSet;
 import java.util.regex.Matcher;
 import java.util.regex.Pattern;
@@ -118,6 +121,61 @@ public final class RulesTest {
         }
     }
 
+    private record Written(String header, String name, String body) { }
+
+    private static List<Written> methods() throws IOException {
+        List<Written> all = new ArrayList<>();
+        Matcher m = Pattern.compile("(?ms)^( {4}(?: {4})?)([\\w\\[\\] ]*?(\\w+)\\([^)\n]*\\)) \\{\n(.*?)^\\1\\}")
+            .matcher(codeAlone(Files.readString(PROGRAM)));
+        while (m.find()) {
+            all.add(new Written(m.group(2), m.group(3), m.group(4)));
+        }
+        return all;
+    }
+
+    /** Rule 8: a method that calls itself is private and static, and carries its depth as an argument. */
+    private static void recursion() throws IOException {
+        int found = 0;
+        for (Written method : methods()) {
+            if (Pattern.compile("(?<![.\\w])" + method.name + "\\(").matcher(method.body).find()) {
+                found++;
+                check(method.header.startsWith("private static "), method.header + " calls itself and is not static");
+                check(method.header.contains("int depth"), method.header + " calls itself without a depth");
+            }
+        }
+        check(found == 1, found + " methods call themselves");
+    }
+
+    /** How deep calls go from methods of this name; one that is open already counts once more. */
+    private static int depthOf(String name, Map<String, Set<String>> calls, List<String> open) {
+        int deepest = 0;
+        if (calls.containsKey(name) && !open.contains(name)) {
+            open.add(name);
+            for (String called : calls.get(name)) {
+                deepest = Math.max(deepest, depthOf(called, calls, open));
+            }
+            open.remove(name);
+        }
+        return deepest + 1;
+    }
+
+    /** Rule 11: calls that are no recursion go at most eight deep. */
+    private static void callsAreNotDeep() throws IOException {
+        Map<String, Set<String>> calls = new TreeMap<>();
+        for (Written method : methods()) {
+            Set<String> called = calls.computeIfAbsent(method.name, name -> new TreeSet<>());
+            Matcher m = Pattern.compile("\\b(\\w+)\\(").matcher(method.body);
+            while (m.find()) {
+                called.add(m.group(1));
+            }
+        }
+        check(calls.size() > 100, "only " + calls.size() + " names of methods were seen");
+        for (String name : calls.keySet()) {
+            int depth = depthOf(name, calls, new ArrayList<>());
+            check(depth <= 8, name + " calls " + depth + " deep");
+        }
+    }
+
     private static void bigLeague(TwiceRunning x) {
         for (int s = 0; s < 6; s++) {
             x.side(s, 9 - s);
@@ -177,6 +235,8 @@ public final class RulesTest {
         classesInside();
         words();
         methodLengths();
+        recursion();
+        callsAreNotDeep();
         nothingIsMade();
         System.out.println(wrong == 0 ? "the rules are kept" : wrong + " rules are not kept");
         if (wrong != 0) {
